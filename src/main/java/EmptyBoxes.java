@@ -979,8 +979,11 @@ public final class EmptyBoxes {
             lackCost = desk.lackCost;
             leastCost = 0;
             for (int knot = 0; knot < KNOTS; knot++) {
-                idle[knot] = desk.weeks.cell(knot, WEEK_STOCK);
-                unmet[knot] = desk.weeks.cell(knot, WEEK_NEED);
+                int stock = desk.weeks.cell(knot, WEEK_STOCK);
+                int need = desk.weeks.cell(knot, WEEK_NEED);
+                // A box can do no better than be used where it comes free.
+                idle[knot] = Math.max(0, stock - need);
+                unmet[knot] = Math.max(0, need - stock);
                 leastCost += lackCost * unmet[knot];
             }
         }
@@ -1027,9 +1030,8 @@ public final class EmptyBoxes {
             for (int round = 0; round <= KNOTS && changed; round++) {
                 changed = false;
                 for (int arc = 0; arc < arcs; arc++) {
-                    int better = gain[end[arc]] - cost[arc];
-                    if (room[arc] > 0 && better > gain[start[arc]]) {
-                        gain[start[arc]] = better;
+                    if (room[arc] > 0 && gain[end[arc]] - cost[arc] > gain[start[arc]]) {
+                        gain[start[arc]] = gain[end[arc]] - cost[arc];
                         way[start[arc]] = arc;
                         changed = true;
                     }
