@@ -958,7 +958,11 @@ public final class EmptyBoxes {
         int leastCost;
 
         int gainAt(int knot) {
-            return knot >= 0 && knot < KNOTS ? gain[knot] : 0;
+            return isKnot(knot) ? gain[knot] : 0;
+        }
+
+        private static boolean isKnot(int knot) {
+            return isWithin(knot, 0, KNOTS - 1);
         }
 
         void solve(Desk desk) {
@@ -1006,7 +1010,8 @@ public final class EmptyBoxes {
         }
 
         private void layArc(int from, int to, int price, int space) {
-            if (arcs + 1 < MOST_ARCS) {
+            // The ends are used as indexes later on, so no arc is laid to what is no knot.
+            if (arcs + 1 < MOST_ARCS && isKnot(from) && isKnot(to)) {
                 putArc(arcs, from, to, price, space);
                 putArc(arcs + 1, to, from, -price, 0);
                 arcs += 2;
