@@ -320,6 +320,12 @@ final class EdgesOfTurns {
             z.turn(true, 0, 0, 0, 50, 200);
             z.turn(true, 0, 0, 0, 40, 200);
             matchIs("nothing is left of them", z, 1, 40, 1);
+            EmptyBoxes last = turns(new int[] {5, 5}, new int[] {5});
+            matchIs("one pair of two OFFERS", last, 1, 0, 0, NONE);
+            last.clear();
+            last.turn(false, 0, 0, 0, 0, 200);
+            last.turn(true, 0, 0, 0, 40, 200);
+            matchIs("nor of that one", last, 1, 40, 0);
         });
     }
 }
