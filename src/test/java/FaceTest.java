@@ -26,6 +26,7 @@ public final class FaceTest {
         fields();
         classesInside();
         words();
+        lengths();
         due.end();
     }
 
@@ -89,11 +90,20 @@ public final class FaceTest {
         for (Class<?> c : inside) {
             due.is("rule 1: " + c.getName() + " is static", Modifier.isStatic(c.getModifiers()) ? 1 : 0, 1);
             due.is("rule 1: " + c.getName() + " isn't public", Modifier.isPublic(c.getModifiers()) ? 1 : 0, 0);
+            due.is("rule 11: fields of " + c.getName(), ownFields(c) <= 20 ? 1 : 0, 1);
             for (Method m : c.getDeclaredMethods()) {
                 due.is("rule 1: " + c.getName() + "." + m.getName(), publicNames.contains(m.getName()) ? 1 : 0, 0);
                 due.is("rule 11: parameters of " + m.getName(), m.getParameterCount() <= 7 ? 1 : 0, 1);
             }
         }
+    }
+
+    private static int ownFields(Class<?> c) {
+        int found = 0;
+        for (Field f : c.getDeclaredFields()) {
+            found += Modifier.isStatic(f.getModifiers()) ? 0 : 1;
+        }
+        return found;
     }
 
     private static void words() throws Exception {
@@ -110,5 +120,37 @@ public final class FaceTest {
                 due.is("a sign above 127 at " + i, source.charAt(i), 0);
             }
         }
+    }
+
+    /** Rule 11: short methods. README.md: all objects are made by constructors and by the fields themselves. */
+    private static void lengths() throws Exception {
+        String[] rows = Files.readString(Path.of("src/main/java/EmptyBoxes.java")).split("\n");
+        Pattern head = Pattern.compile("( {4}| {8})(?:\\S[^(]* )?(\\w+)\\(.*\\{");
+        Pattern making = Pattern.compile("\\bnew [A-Za-z]+[(\\[]");
+        String method = "";
+        String end = "";
+        int begun = 0;
+        int methods = 0;
+        for (int i = 0; i < rows.length; i++) {
+            Matcher m = head.matcher(rows[i]);
+            if (method.isEmpty() && m.matches()) {
+                method = m.group(2);
+                end = m.group(1) + "}";
+                begun = i;
+                methods++;
+            }
+            boolean isConstructor = method.isEmpty() || Character.isUpperCase(method.charAt(0));
+            due.is("an object is made in " + method, making.matcher(rows[i]).find() && !isConstructor ? 1 : 0, 0);
+            if (!method.isEmpty() && rows[i].equals(end)) {
+                due.is("rule 11: rows of " + method, i - begun < 60 ? 1 : 0, 1);
+                method = "";
+            }
+        }
+        due.is("the last method has its end", method, "");
+        int declared = EmptyBoxes.class.getDeclaredMethods().length;
+        for (Class<?> c : EmptyBoxes.class.getDeclaredClasses()) {
+            declared += c.getDeclaredMethods().length;
+        }
+        due.is("each method was seen", methods >= declared ? 1 : 0, 1);
     }
 }
